@@ -13,6 +13,7 @@ public final class IngredientTest {
     substitute();
     substituteWrong();
     removeSubstitution();
+    eachLeavesTheOthers();
     CHECK.end();
   }
 
@@ -227,5 +228,29 @@ public final class IngredientTest {
     CHECK.due("of six the last", x.removeSubstitution(5), 5);
     CHECK.due("of five the first", x.removeSubstitution(0), 4);
     CHECK.due("a new one", x.substitute(9, 10, 1, 1, 0, 0), 4);
+  }
+
+  private static void eachLeavesTheOthers() {
+    for (int change = 0; change < 7; change++) {
+      RecipeScaler x = Check.with("0:10ma,10pa=1g");
+      x.density(0, 1, 1);
+      x.weight(0, 2, 1);
+      x.allergens(0, 3, 4);
+      x.pack(0, 10, 9);
+      x.scale(0, 1, 1);
+      int[] answers = {x.density(change == 0 ? 0 : 1, 1, 1), x.weight(change == 1 ? 0 : 1, 2, 1),
+          x.allergens(change == 2 ? 0 : 1, 3, 4), x.stock(change == 3 ? 0 : 1, 0),
+          x.pack(change == 4 ? 0 : 1, 10, 9), change == 5 ? x.removePack(0) : x.removePack(1),
+          change == 6 ? x.buy() : 0};
+      CHECK.due("change " + change, answers[change], new int[] {1, 1, 1027, 0, 1, 0, 27}[change]);
+      CHECK.due("packs behind change " + change, x.count(40), change == 4 ? 2 : change == 5 ? 0 : 1);
+      CHECK.due("stock behind change " + change, x.count(20), 0);
+      x.scale(0, 1, 1);
+      CHECK.due("need behind change " + change, x.needed(0, 0, 0), 30);
+      CHECK.due("risk behind change " + change, x.risk(0) + 256 * x.risk(1), 3 + 256 * 4);
+      CHECK.due("price behind change " + change, x.account(0), change == 5 ? 0 : 27);
+      CHECK.due("its density was known", x.density(0, 1, 1), 1);
+      CHECK.due("its weight was known", x.weight(0, 1, 1), 1);
+    }
   }
 }

@@ -14,6 +14,7 @@ public final class NeedsTest {
     reasonsInTheirOrder();
     reasonOfTooGreat();
     reasonOfTooManyItems();
+    allRecipesInOneAnother();
     reasonIsKept();
     applied();
     conditions();
@@ -220,6 +221,17 @@ public final class NeedsTest {
     Check.read(x, "4:1g0,1g6,1ga,1ga,1ga,1g5=1g");
     x.scale(4, 1, 1);
     CHECK.due("the 300th has its own reason", x.reason(), 1);
+  }
+
+  private static void allRecipesInOneAnother() {
+    RecipeScaler x = Check.with("7:1g6=1g", "6:1g5=1g", "5:1g4=1g", "4:1g3=1g", "3:1g2=1g",
+        "2:1g1=1g", "1:2g0=1g", "0:3gl=4g");
+    CHECK.due("eight recipes deep", x.scale(7, 1, 1), 1);
+    need(x, 11, 0, 3, 2);
+    CHECK.due("by the second way", x.again(11, 0) * 10 + x.again(11, 1), 32);
+    Check.read(x, "0:3gl,1g7=4g");
+    CHECK.due("a loop of eight", x.scale(7, 1, 1), 0);
+    CHECK.due("its reason", x.reason(), 2);
   }
 
   private static void reasonIsKept() {

@@ -219,15 +219,18 @@ public final class ReadingTest {
 
   private static void recipeSets() {
     RecipeScaler x = Check.with("0:1g1,1ga,1g1,1g6=1g", "1:1g2,1gl=1g", "2:1g3,1gb=1g",
-        "3:1g2,1gc=1g", "5:1g5=1g", "7:1gk=1g");
+        "3:1g2,1gc=1g", "5:1g5=1g", "7:1gk,1gj,1g4=1g");
     CHECK.due("direct recipes, missing ones too", x.recipe(0, 5), 1 << 1 | 1 << 6);
     CHECK.due("all recipes", x.recipe(0, 6), 1 << 1 | 1 << 2 | 1 << 3 | 1 << 6);
     CHECK.due("all ingredients", x.recipe(0, 7), 1 | 1 << 11 | 1 << 1 | 1 << 2);
     CHECK.due("itself through another", x.recipe(2, 6), 1 << 2 | 1 << 3);
     CHECK.due("itself directly", x.recipe(5, 6), 1 << 5);
     CHECK.due("no ingredients", x.recipe(5, 7), 0);
+    CHECK.due("a missing one", x.recipe(7, 6), 1 << 4);
+    CHECK.due("two ingredients", x.recipe(7, 7), 1 << 10 | 1 << 9);
+    Check.read(x, "7:1gk=1g");
+    CHECK.due("no direct recipes", x.recipe(7, 5), 0);
     CHECK.due("no recipes", x.recipe(7, 6), 0);
-    CHECK.due("one ingredient", x.recipe(7, 7), 1 << 10);
     RecipeScaler y = Check.with("7:1g6=1g", "6:1g5=1g", "5:1g4=1g", "4:1g3=1g", "3:1g2=1g",
         "2:1g1=1g", "1:1g0=1g", "0:1gi=1g");
     CHECK.due("a long chain", y.recipe(7, 6), 127);
