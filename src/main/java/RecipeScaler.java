@@ -1479,7 +1479,7 @@ public final class RecipeScaler {
       // The smallest pack alone reaches a sum that is less than its size above the lack.
       for (int sum = 0; sum < Ingredient.MOST_LACK + MOST_SIZE; sum++) {
         long choice = sum == 0 ? NO_PACKS : bestWithLastPack(ingredient, sum);
-        best[sum & (RING - 1)] = choice;
+        putBest(sum, choice);
         if (sum >= lack && choice != NO_CHOICE) {
           chosen = choice;
           chosenGrams = sum;
@@ -1494,12 +1494,24 @@ public final class RecipeScaler {
       int packs = ingredient.packCount();
       for (int k = 0; k < packs; k++) {
         int rest = sum - ingredient.sizeAt(k);
-        long others = rest < 0 ? NO_CHOICE : best[rest & (RING - 1)];
+        long others = bestAt(rest);
         if (others != NO_CHOICE) {
           found = Math.min(found, others + onePack(k, ingredient.priceAt(k)));
         }
       }
       return found;
+    }
+
+    private long bestAt(int sum) {
+      int place = sum & (RING - 1);
+      return sum >= 0 && place < best.length ? best[place] : NO_CHOICE;
+    }
+
+    private void putBest(int sum, long choice) {
+      int place = sum & (RING - 1);
+      if (sum >= 0 && place < best.length) {
+        best[place] = choice;
+      }
     }
 
     private static long onePack(int k, int price) {

@@ -1,7 +1,6 @@
 /** Promises 5 to 12: the ingredients, their packs, and the list of substitutions. */
 public final class IngredientTest {
   private static final Check CHECK = new Check("IngredientTest");
-  private static final int[] NO_INGREDIENTS = {-1, 12, Integer.MIN_VALUE, Integer.MAX_VALUE};
 
   public static void main(String[] args) {
     density();
@@ -37,7 +36,7 @@ public final class IngredientTest {
     CHECK.due("not found", x.needed(0, 0, 0), RecipeScaler.NO);
     CHECK.due("the last ingredient", x.density(11, 1, 1), 0);
     x = new RecipeScaler();
-    for (int i : NO_INGREDIENTS) {
+    for (int i : Check.NO_INGREDIENTS) {
       CHECK.due("density of " + i, x.density(i, 1, 1), RecipeScaler.NONE);
       CHECK.due("density of " + i + ", wrong", x.density(i, -2, 0), RecipeScaler.NONE);
     }
@@ -67,7 +66,7 @@ public final class IngredientTest {
     CHECK.due("was unknown", x.weight(1, 9999, 9999), 0);
     CHECK.due("is 1", x.needed(1, 0, 0), 3);
     CHECK.due("changes", x.count(4), 7);
-    for (int i : NO_INGREDIENTS) {
+    for (int i : Check.NO_INGREDIENTS) {
       CHECK.due("weight of " + i, x.weight(i, 1, 1), RecipeScaler.NONE);
       CHECK.due("weight of " + i + ", wrong", x.weight(i, 1, 0), RecipeScaler.NONE);
     }
@@ -89,7 +88,7 @@ public final class IngredientTest {
     CHECK.due("previous", x.allergens(3, 0, 128), 6 + 256 * 255);
     CHECK.due("previous", x.allergens(3, 0, 0), 256 * 128);
     CHECK.due("of another", x.allergens(11, 1, 1), 0);
-    for (int i : NO_INGREDIENTS) {
+    for (int i : Check.NO_INGREDIENTS) {
       CHECK.due("allergens of " + i, x.allergens(i, 0, 0), RecipeScaler.NONE);
       CHECK.due("allergens of " + i + ", wrong", x.allergens(i, 256, 0), RecipeScaler.NONE);
     }
@@ -107,7 +106,7 @@ public final class IngredientTest {
     CHECK.due("previous", x.stock(0, 999999), 5);
     CHECK.due("previous", x.stock(0, 0), 999999);
     CHECK.due("of the last", x.stock(11, 7), 0);
-    for (int i : NO_INGREDIENTS) {
+    for (int i : Check.NO_INGREDIENTS) {
       CHECK.due("stock of " + i, x.stock(i, 0), RecipeScaler.NONE);
       CHECK.due("stock of " + i + ", wrong", x.stock(i, -1), RecipeScaler.NONE);
     }
@@ -127,7 +126,7 @@ public final class IngredientTest {
     CHECK.due("BAD ahead of FULL", x.pack(2, 0, 0), RecipeScaler.BAD);
     CHECK.due("packs", x.count(42), 3);
     CHECK.due("of another", x.pack(11, 5, 5), 0);
-    for (int i : NO_INGREDIENTS) {
+    for (int i : Check.NO_INGREDIENTS) {
       CHECK.due("pack of " + i, x.pack(i, 1, 1), RecipeScaler.NONE);
       CHECK.due("pack of " + i + ", wrong", x.pack(i, 0, 1000), RecipeScaler.NONE);
     }
@@ -157,7 +156,7 @@ public final class IngredientTest {
     CHECK.due("none is left", x.removePack(0), RecipeScaler.STATE);
     CHECK.due("a new one is pack 0", x.pack(0, 3, 1), 0);
     CHECK.due("it is bought", x.shopping(0, 10), 10);
-    for (int i : NO_INGREDIENTS) {
+    for (int i : Check.NO_INGREDIENTS) {
       CHECK.due("removePack of " + i, x.removePack(i), RecipeScaler.NONE);
     }
   }
@@ -179,7 +178,7 @@ public final class IngredientTest {
 
   private static void substituteWrong() {
     RecipeScaler x = new RecipeScaler();
-    for (int i : NO_INGREDIENTS) {
+    for (int i : Check.NO_INGREDIENTS) {
       CHECK.due("x " + i, x.substitute(i, 1, 1, 1, 0, 0), RecipeScaler.NONE);
       CHECK.due("y " + i, x.substitute(1, i, 1, 1, 0, 0), RecipeScaler.NONE);
       CHECK.due("x is y is " + i, x.substitute(i, i, 1, 1, 0, 0), RecipeScaler.NONE);

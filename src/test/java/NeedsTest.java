@@ -1,9 +1,6 @@
 /** Promises 13, 14, 18 to 20, 25 and 26: plans, what is needed, and the reasons of refusals. */
 public final class NeedsTest {
   private static final Check CHECK = new Check("NeedsTest");
-  private static final int[] NO_RECIPES = {-1, 8, Integer.MIN_VALUE, Integer.MAX_VALUE};
-  private static final int[] NO_INGREDIENTS = {-1, 12, Integer.MIN_VALUE, Integer.MAX_VALUE};
-  private static final int[] NO_PARTS = {-1, 2, Integer.MIN_VALUE, Integer.MAX_VALUE};
 
   public static void main(String[] args) {
     scale();
@@ -44,7 +41,7 @@ public final class NeedsTest {
     CHECK.due("with its factor", x.count(6), 9999);
     CHECK.due("and a reason", x.reason(), 4);
     CHECK.due("changes", x.count(4), 4);
-    for (int r : NO_RECIPES) {
+    for (int r : Check.NO_RECIPES) {
       CHECK.due("scale " + r, x.scale(r, 0, 0), RecipeScaler.NONE);
     }
     CHECK.due("scale a missing one", x.scale(7, 0, 0), RecipeScaler.STATE);
@@ -69,7 +66,7 @@ public final class NeedsTest {
     CHECK.due("pan's reason", x.reason(), 4);
     CHECK.due("its factor", x.count(6), 9999);
     CHECK.due("changes", x.count(4), 5);
-    for (int r : NO_RECIPES) {
+    for (int r : Check.NO_RECIPES) {
       CHECK.due("pan of " + r, x.pan(r, 0), RecipeScaler.NONE);
     }
     CHECK.due("pan of a missing one", x.pan(7, 0), RecipeScaler.STATE);
@@ -101,10 +98,10 @@ public final class NeedsTest {
     need(x, 0, 1, 0, 1);
     need(x, 1, 0, 9, 1);
     need(x, 1, 1, 14, 1);
-    for (int i : NO_INGREDIENTS) {
+    for (int i : Check.NO_INGREDIENTS) {
       CHECK.due("needed of " + i, x.needed(i, 0, 0), RecipeScaler.NO);
     }
-    for (int wrong : NO_PARTS) {
+    for (int wrong : Check.NO_PARTS) {
       CHECK.due("isAfter " + wrong, x.needed(0, wrong, 0), RecipeScaler.NO);
       CHECK.due("part " + wrong, x.needed(0, 0, wrong), RecipeScaler.NO);
     }
@@ -414,10 +411,10 @@ public final class NeedsTest {
     CHECK.due("c", x.again(2, 0) * 10 + x.again(2, 1), 203);
     x.substitute(0, 1, 1, 1, 0, 0);
     CHECK.due("before the substitutions", x.again(0, 0), 250);
-    for (int i : NO_INGREDIENTS) {
+    for (int i : Check.NO_INGREDIENTS) {
       CHECK.due("again of " + i, x.again(i, 0), RecipeScaler.NO);
     }
-    for (int part : NO_PARTS) {
+    for (int part : Check.NO_PARTS) {
       CHECK.due("again part " + part, x.again(0, part), RecipeScaler.NO);
     }
     Check.read(x, "3:1ga=1g");
@@ -475,10 +472,10 @@ public final class NeedsTest {
 
   private static void possibleNot() {
     RecipeScaler x = Check.with("0:1/999g1=1g", "1:1/999ga,1gb=2g", "2:1ma=1g");
-    for (int r : NO_RECIPES) {
+    for (int r : Check.NO_RECIPES) {
       CHECK.due("possible " + r, x.possible(r, 0), RecipeScaler.NO);
     }
-    for (int part : NO_PARTS) {
+    for (int part : Check.NO_PARTS) {
       CHECK.due("possible part " + part, x.possible(0, part), RecipeScaler.NO);
     }
     CHECK.due("no reason", x.reason(), -5);

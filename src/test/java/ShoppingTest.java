@@ -17,16 +17,6 @@ public final class ShoppingTest {
     CHECK.end();
   }
 
-  /** A plan that needs so many grams of a, and packs of a by size and price. */
-  private static RecipeScaler lacking(int grams, int... packs) {
-    RecipeScaler x = Check.with("0:1ga=1g");
-    x.scale(0, grams, 1);
-    for (int i = 0; i < packs.length; i += 2) {
-      x.pack(0, packs[i], packs[i + 1]);
-    }
-    return x;
-  }
-
   private static void bought(String call, RecipeScaler x, int waste, int price, int... numbers) {
     CHECK.due(call + ": waste", x.shopping(0, 1), waste);
     CHECK.due(call + ": price", x.shopping(0, 2), price);
@@ -64,35 +54,35 @@ public final class ShoppingTest {
   }
 
   private static void choices() {
-    bought("one pack", lacking(10, 3, 7), 2, 28, 4);
-    bought("waste ahead of price", lacking(10, 11, 0, 10, 999), 0, 999, 0, 1);
-    bought("waste ahead of price, mixed", lacking(12, 13, 1, 5, 500, 7, 400), 0, 900, 0, 1, 1);
-    bought("least price", lacking(10, 10, 50, 5, 20), 0, 40, 0, 2);
-    bought("least price, mixed", lacking(20, 10, 50, 5, 20, 15, 65), 0, 80, 0, 4, 0);
-    bought("some waste", lacking(11, 7, 1, 5, 1), 1, 2, 1, 1);
-    bought("a free pack", lacking(9, 5, 0, 9, 0), 0, 0, 0, 1);
-    bought("one great pack", lacking(1, 2000, 5), 1999, 5, 1);
-    bought("a waste that no number of one pack has", lacking(43, 6, 1, 9, 1, 20, 1), 1, 4, 1, 2, 1);
+    bought("one pack", Check.lacking(10, 3, 7), 2, 28, 4);
+    bought("waste ahead of price", Check.lacking(10, 11, 0, 10, 999), 0, 999, 0, 1);
+    bought("waste ahead of price, mixed", Check.lacking(12, 13, 1, 5, 500, 7, 400), 0, 900, 0, 1, 1);
+    bought("least price", Check.lacking(10, 10, 50, 5, 20), 0, 40, 0, 2);
+    bought("least price, mixed", Check.lacking(20, 10, 50, 5, 20, 15, 65), 0, 80, 0, 4, 0);
+    bought("some waste", Check.lacking(11, 7, 1, 5, 1), 1, 2, 1, 1);
+    bought("a free pack", Check.lacking(9, 5, 0, 9, 0), 0, 0, 0, 1);
+    bought("one great pack", Check.lacking(1, 2000, 5), 1999, 5, 1);
+    bought("a waste that no number of one pack has", Check.lacking(43, 6, 1, 9, 1, 20, 1), 1, 4, 1, 2, 1);
   }
 
   private static void choicesOfEqualPrice() {
-    bought("fewest packs, the first", lacking(10, 10, 40, 5, 20), 0, 40, 1, 0);
-    bought("fewest packs, the second", lacking(10, 5, 20, 10, 40), 0, 40, 0, 1);
-    bought("fewest packs, the third", lacking(10, 5, 20, 2, 8, 10, 40), 0, 40, 0, 0, 1);
-    bought("most of pack 0", lacking(10, 5, 10, 3, 10, 7, 10), 0, 20, 2, 0, 0);
-    bought("most of pack 0, others", lacking(10, 3, 10, 5, 10, 7, 10), 0, 20, 1, 0, 1);
-    bought("equal packs", lacking(10, 5, 1, 5, 1, 5, 1), 0, 2, 2, 0, 0);
-    bought("then of pack 1", lacking(10, 9, 10, 5, 1, 5, 1), 0, 2, 0, 2, 0);
-    bought("then of pack 1, behind pack 0", lacking(13, 3, 9, 5, 1, 5, 1), 0, 11, 1, 2, 0);
-    bought("free ones", lacking(4, 1, 0, 2, 0, 3, 0), 0, 0, 1, 0, 1);
+    bought("fewest packs, the first", Check.lacking(10, 10, 40, 5, 20), 0, 40, 1, 0);
+    bought("fewest packs, the second", Check.lacking(10, 5, 20, 10, 40), 0, 40, 0, 1);
+    bought("fewest packs, the third", Check.lacking(10, 5, 20, 2, 8, 10, 40), 0, 40, 0, 0, 1);
+    bought("most of pack 0", Check.lacking(10, 5, 10, 3, 10, 7, 10), 0, 20, 2, 0, 0);
+    bought("most of pack 0, others", Check.lacking(10, 3, 10, 5, 10, 7, 10), 0, 20, 1, 0, 1);
+    bought("equal packs", Check.lacking(10, 5, 1, 5, 1, 5, 1), 0, 2, 2, 0, 0);
+    bought("then of pack 1", Check.lacking(10, 9, 10, 5, 1, 5, 1), 0, 2, 0, 2, 0);
+    bought("then of pack 1, behind pack 0", Check.lacking(13, 3, 9, 5, 1, 5, 1), 0, 11, 1, 2, 0);
+    bought("free ones", Check.lacking(4, 1, 0, 2, 0, 3, 0), 0, 0, 1, 0, 1);
   }
 
   private static void greatLacks() {
-    bought("5000 by 1", lacking(5000, 1, 999), 0, 4995000, 5000);
-    bought("5000 by 2000", lacking(5000, 2000, 3), 1000, 9, 3);
-    bought("5000 by 2000 and 1999", lacking(5000, 2000, 3, 1999, 0), 997, 0, 0, 3);
-    bought("4999 by 1, 1 and 2", lacking(4999, 1, 1, 1, 1, 2, 2), 0, 4999, 1, 0, 2499);
-    RecipeScaler x = lacking(5001, 1, 1);
+    bought("5000 by 1", Check.lacking(5000, 1, 999), 0, 4995000, 5000);
+    bought("5000 by 2000", Check.lacking(5000, 2000, 3), 1000, 9, 3);
+    bought("5000 by 2000 and 1999", Check.lacking(5000, 2000, 3, 1999, 0), 997, 0, 0, 3);
+    bought("4999 by 1, 1 and 2", Check.lacking(4999, 1, 1, 1, 1, 2, 2), 0, 4999, 1, 0, 2499);
+    RecipeScaler x = Check.lacking(5001, 1, 1);
     CHECK.due("lack 5001", x.shopping(0, 0), 5001);
     for (int what : new int[] {1, 2, 3, 10}) {
       CHECK.due("lack 5001, what " + what, x.shopping(0, what), -5);
@@ -103,7 +93,7 @@ public final class ShoppingTest {
   }
 
   private static void withoutPacks() {
-    RecipeScaler x = lacking(3);
+    RecipeScaler x = Check.lacking(3);
     CHECK.due("the lack", x.shopping(0, 0), 3);
     for (int what = 1; what <= 3; what++) {
       CHECK.due("without packs, what " + what, x.shopping(0, what), -5);
@@ -113,7 +103,7 @@ public final class ShoppingTest {
   }
 
   private static void wrongArguments() {
-    RecipeScaler x = lacking(3, 2, 1, 3, 1);
+    RecipeScaler x = Check.lacking(3, 2, 1, 3, 1);
     for (int i : new int[] {-1, 12, Integer.MIN_VALUE, Integer.MAX_VALUE}) {
       CHECK.due("shopping of " + i, x.shopping(i, 0), RecipeScaler.NONE);
     }
