@@ -10,13 +10,15 @@ import java.util.stream.Collectors;
 import java.util.stream.Stream;
 
 /**
- * Each sentence of the document's description and promises is quoted by a test, and what the tests
- * quote stands in the document. It is run where src/test/java and ../shared/DOC.md can be found.
+ * Each sentence of the document's description and promises is quoted by a test, what the tests
+ * quote stands in the document, and the program has the document's face. It is run where src and
+ * ../shared/DOC.md can be found.
  */
 public final class DocTest {
   private static final Check CHECK = new Check("DocTest");
   private static final Path DOC = Paths.get("../shared/DOC.md");
   private static final Path TESTS = Paths.get("src/test/java");
+  private static final Path MAIN = Paths.get("src/main/java/RecipeScaler.java");
   private static final String TEXT = "\"(?:[^\"\\\\]|\\\\.)*\"";
   private static final Pattern QUOTE =
       Pattern.compile("CHECK\\.says\\(\\s*(" + TEXT + "(?:\\s*\\+\\s*" + TEXT + ")*)\\);");
@@ -30,6 +32,7 @@ public final class DocTest {
       return;
     }
     String doc = Files.readString(DOC, StandardCharsets.UTF_8);
+    face(doc, Files.readString(MAIN, StandardCharsets.UTF_8));
     String plain = doc.replaceAll("\\s+", " ");
     String promised = promised(doc);
     boolean[] isQuoted = new boolean[promised.length()];
@@ -41,6 +44,29 @@ public final class DocTest {
     }
     notQuoted(promised, isQuoted);
     CHECK.end();
+  }
+
+  /** The program's public lines are those of the document's face, each method also a promise's. */
+  private static void face(String doc, String program) {
+    int from = doc.indexOf("```java\n");
+    int to = doc.indexOf("\n}\n```");
+    CHECK.isTrue("there is a face", from >= 0 && to > from);
+    String[] lines = doc.substring(from, to).split("\n");
+    int faceLines = 0;
+    for (String line : lines) {
+      if (!line.trim().startsWith("public ")) {
+        continue;
+      }
+      faceLines++;
+      boolean isHead = line.endsWith(");");
+      String due = (isHead ? line.replace(");", ") {") : line).trim();
+      CHECK.isTrue("the program has: " + due, program.contains("\n" + (line.startsWith(" ")
+          ? "  " : "") + due + "\n"));
+      String signature = line.trim().replace("public ", "").replace(";", "");
+      CHECK.isTrue("a promise of: " + signature, !isHead || doc.contains("`" + signature + "`"));
+    }
+    CHECK.due("lines of the face", faceLines, 33);
+    CHECK.due("public lines", program.split("(?m)^ *public ").length - 1, faceLines);
   }
 
   /** The description and the promises without their heads and signatures, on one line. */
